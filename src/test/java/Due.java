@@ -2,15 +2,21 @@
 final class Due {
     private static int asked = 0;
     private static int wrong = 0;
+    private static String place = "";
 
     private Due() {
+    }
+
+    /** What each complaint begins with from now on. */
+    static void within(String test) {
+        place = test;
     }
 
     static void due(String call, long got, long want) {
         asked++;
         if (got != want) {
             wrong++;
-            System.out.println(call + " answered " + got + ", due is " + want);
+            System.out.println(place + call + " answered " + got + ", due is " + want);
         }
     }
 
