@@ -124,6 +124,24 @@ final class EdgesOfHallTest {
         wrong(FIVE + "0", 22);
     }
 
+    @Sentence("each: , and a letter,")
+    static void p02_aCommaAndALetter() {
+        for (String letter : new String[] {"c", "b", "t"}) {
+            taken("z1," + letter + "00", 1);
+            wrong("z1" + letter + "00", 2);
+            wrong("z1,c00" + letter + "00", 6);
+        }
+        for (String letter : new String[] {"a", "d", "s", "u", "z", "C", "B", "T", "0", ","}) {
+            wrong("z1," + letter + "00", 3);
+            wrong("z1,c00," + letter + "00", 7);
+        }
+        wrong("z1;c00", 2);
+        wrong("z1+c00", 2);
+        wrong("z1-c00", 2);
+        wrong("z1,,c00", 3);
+        wrong("z,c00", 1);
+    }
+
     @Sentence("a digit 0 .. 4 (EAR)")
     static void p02_earZeroToFour() {
         for (int ear = 0; ear <= 9; ear++) {

@@ -221,6 +221,21 @@ final class EdgesOfSeatsTest {
         seated(minding(2, 0), 1, 1, 0, NONE);
     }
 
+    @Sentence({"A TEXT that is taken makes all anew", "as many GUESTS as can be sit on CHAIRS that BEAR them"})
+    static void p11_nothingIsLeftOfALargerHall() {
+        ChairGrudge x = minding(5, 31, 0);
+        seated(x, 1, 1, 1, NONE, NONE, NONE, NONE);
+        Due.due("a smaller hall", Due.tryHall(x, "z1,c01,c01"), 2);
+        seated(x, 1, 1, 0);
+        x.slip(0, 0, 0);
+        x.slip(0, 0, 1);
+        seated(x, 1, 0, NONE);
+        Due.due("a smaller one", Due.tryHall(x, "z3,c01"), 1);
+        seated(x, 1, 1, 0, NONE, NONE);
+        Due.due("a larger one", Due.tryHall(x, "z4,c01,c01,c01,c01,c01"), 5);
+        seated(x, 1, 4, 0, 1, 2, 3);
+    }
+
     @Sentence("SEATS: how many sit (g -1), the CHAIR of GUEST g; NONE: he stands. UNKNOWN: g is not -1, no GUEST")
     static void p11_noSuchGuest() {
         ChairGrudge x = Due.inHall("z3,c00,c00");
@@ -327,12 +342,28 @@ final class EdgesOfSeatsTest {
         tips(x, 1, 3, 0, 1, NONE, 1);
     }
 
+    @Sentence("NONE: nobody is.")
+    static void p13_nobodyIs() {
+        tips(minding(1, 0), 1, NONE, 0);
+        tips(minding(5, 0, 0, 0, 0, 0), 1, NONE, 4, 3, 2, 1, 0);
+        tips(minding(2, 3, 3), 1, NONE, NONE, NONE);
+        tips(minding(2, 3, 3), 0, NONE, 1, 0);
+        tips(minding(2, 3, 3), 2, NONE, 0, 1);
+    }
+
     @Sentence("or a GUEST ahead sits on it")
     static void p13_oneWhoWasTippedStillSitsAhead() {
         // guest 0 is tipped by chair 0, so he is told, though guest 1 is tipped as well
         tips(minding(2, 1), 1, 0, 0, 0);
         // a guest behind does not tip the one ahead
         tips(minding(2, 0), 1, 1, 0, 0);
+    }
+
+    @Sentence("or a GUEST ahead sits on it")
+    static void p13_anyGuestAhead() {
+        tips(minding(3, 0, 0), 1, 2, 0, 1, 0);
+        tips(minding(4, 0, 0, 0), 1, 3, 0, 1, 2, 0);
+        tips(minding(4, 0, 0, 0), 1, 3, 0, 1, NONE, 1);
     }
 
     @Sentence("UNKNOWN: a cell is no CHAIR, and not NONE (he stands).")
@@ -343,13 +374,23 @@ final class EdgesOfSeatsTest {
         for (int cell : new int[] {-1, 1, 2, -2, -8, -10, 127, -128}) {
             tips(x, 0, UNKNOWN, cell);
             tips(x, 0, UNKNOWN, NONE, 0, cell);
-            tips(x, 1, UNKNOWN, 0, NONE, cell);
         }
         Edges.write(x, 1, 2, 65536, MIN);
         Edges.faulty("a cell far beyond", x, x.tipped(0, 1, 2, 0, 1), UNKNOWN);
         Edges.faulty("a cell far below", x, x.tipped(0, 1, 2, 1, 1), UNKNOWN);
         Edges.write(x, 1, 0, 256 - 9, 256);
         Edges.faulty("cut to NONE, cut to chair 0", x, x.tipped(0, 1, 0, 0, 2), NONE);
+    }
+
+    @Sentence("UNKNOWN: a cell is no CHAIR, and not NONE (he stands).")
+    static void p13_noChairBehindOneWhoIsTipped() {
+        ChairGrudge x = minding(3, 7);
+        tips(x, 1, 0, 0, NONE, NONE);
+        tips(x, 1, UNKNOWN, 0, NONE, 1);
+        tips(x, 0, 1, 0, 0, NONE);
+        tips(x, 0, UNKNOWN, 0, 0, -1);
+        Edges.write(x, 1, 2, 0, 1);
+        Edges.faulty("a cell that is not told does not count", x, x.tipped(1, 1, 2, 0, 1), 0);
     }
 
     @Sentence("A SEATING by n cells of a SHEET, the CHAIR of GUEST 0, 1 ..")
@@ -515,6 +556,20 @@ final class EdgesOfSeatsTest {
                 }
             }
         }
+    }
+
+    @Sentence({"A TEXT that is taken makes all anew", "the fewest BUTTERS"})
+    static void p14_nothingIsLeftOfALargerHall() {
+        ChairGrudge x = minding(4, 3, 3, 15);
+        buttered(x, 1, NONE, NONE, NONE, NONE, NONE);
+        Due.due("a smaller hall", Due.tryHall(x, "z1,c01,c01"), 2);
+        buttered(x, 1, 0, 0);
+        x.slip(0, 0, 0);
+        buttered(x, 1, 0, 1);
+        Due.due("a smaller one", Due.tryHall(x, "z1,c01"), 1);
+        buttered(x, 1, 0, 0);
+        x.slip(0, 0, 0);
+        buttered(x, 1, 1, 0);
     }
 
     @Sentence("LEAST: how many BUTTERS (g -1), the CHAIR of GUEST g; NONE. UNKNOWN: g is not -1, no GUEST")

@@ -218,6 +218,20 @@ final class EdgesOfSheetsTest {
 
     // ---- 27 cell
 
+    @Sentence("Cell i of what a SHEET has, taken as a row of a LANE.")
+    static void p27_firstAndLastCell() {
+        for (int lane = 0; lane < 3; lane++) {
+            ChairGrudge x = new ChairGrudge();
+            x.sheet(3, lane, 60);
+            x.put(3, 0, 5);
+            x.put(3, 59, -6);
+            Due.due("the first", x.cell(3, 0, lane), 5);
+            Due.due("the last", x.cell(3, 59, lane), -6);
+            lost("behind it", x, 3, x.cell(3, 60, lane));
+            lost("ahead of the first", x, 3, x.cell(3, -1, lane));
+        }
+    }
+
     @Sentence("LOST: UNKNOWN, OUTSIDE: lane; FAULTS CAST (nothing is no CAST), NULL, INDEX.")
     static void p27_lost() {
         ChairGrudge x = new ChairGrudge();
@@ -407,7 +421,7 @@ final class EdgesOfSheetsTest {
         Due.due("throne", y.tell(2), 118);
     }
 
-    @Sentence("(BENCH's left out)")
+    @Sentence({"(BENCH's left out)", "as they begin"})
     static void p29_bodiesInTheirOrder() {
         ChairGrudge x = Due.inHall("z1,t05");
         x.tell(0);
@@ -541,9 +555,18 @@ final class EdgesOfSheetsTest {
             x.fresh(c, 0);
         }
         Due.due("still 0", x.trace(), 0);
+    }
+
+    /** A reading of the document: "all" is what the words behind it name, so TRACE and SHEETS stay. */
+    @Sentence("A TEXT that is taken makes all anew: no SLIPS, no BUTTER, no READINGS.")
+    static void p32_aNewTextLeavesIt() {
+        ChairGrudge x = Due.inHall("z1,c09");
         x.creak(0);
-        Due.due("a new text leaves it", x.hall(0, 0, 0, 6), 1);
+        Due.due("a new text", x.hall(0, 0, 0, 6), 1);
         Due.due("4", x.trace(), 4);
+        x.creak(0);
+        Due.due("4, 4", x.trace(), 4 * 31 + 4);
+        Due.due("the sheet has its row", x.cell(0, 0, 0), 122);
     }
 
     // ---- 33 fault

@@ -27,7 +27,9 @@ final class FaceTest {
         methods();
         fields();
         classes();
-        text(Files.readString(Path.of("src/main/java/ChairGrudge.java")));
+        String source = Files.readString(Path.of("src/main/java/ChairGrudge.java"));
+        text(source);
+        lengths(source);
         Due.end("FaceTest");
     }
 
@@ -87,7 +89,28 @@ final class FaceTest {
             int modifiers = c.getModifiers();
             Due.due("static: " + c, Modifier.isStatic(modifiers));
             Due.due("not open: " + c, !Modifier.isPublic(modifiers) && !Modifier.isProtected(modifiers));
+            int own = 0;
+            for (Field f : c.getDeclaredFields()) {
+                boolean isStatic = Modifier.isStatic(f.getModifiers());
+                own += isStatic ? 0 : 1;
+                Due.due("final: " + f, !isStatic || Modifier.isFinal(f.getModifiers()));
+            }
+            Due.due("at most twenty fields: " + c, own <= 20);
+            for (Method m : c.getDeclaredMethods()) {
+                Due.due("at most seven parameters: " + m, m.getParameterCount() <= 7);
+            }
         }
+    }
+
+    /** A method ends at the first closing brace that is set in as far as its head. */
+    private static void lengths(String code) {
+        Matcher method = Pattern.compile("(?ms)^( {4}| {8})(?=\\S)[\\w\\[\\] ]+\\([^;{}]*\\) \\{$.*?^\\1\\}$").matcher(code);
+        int found = 0;
+        while (method.find()) {
+            found++;
+            Due.due("at most sixty lines: " + method.group().lines().findFirst(), method.group().lines().count() <= 60);
+        }
+        Due.due("methods and constructors were found", found > 80);
     }
 
     private static void text(String source) {
