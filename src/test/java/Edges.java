@@ -1,3 +1,4 @@
+import java.io.IOException;
 import java.lang.reflect.InvocationTargetException;
 import java.lang.reflect.Method;
 import java.lang.reflect.Modifier;
@@ -24,14 +25,8 @@ final class Edges {
 
     /** All tests of a class, which has some for each promise from one number to another. */
     static void run(Class<?> tests, int first, int last) throws Exception {
-        String document = plain(Files.readString(Path.of("../shared/DOC.md")));
-        List<Method> found = new ArrayList<>();
-        for (Method m : tests.getDeclaredMethods()) {
-            if (m.getName().matches(FORM)) {
-                found.add(m);
-            }
-        }
-        found.sort(Comparator.comparing(Method::getName));
+        String document = document();
+        List<Method> found = testsOf(tests);
         boolean[] has = new boolean[100];
         for (Method m : found) {
             has[promiseOf(m)] = true;
@@ -48,7 +43,23 @@ final class Edges {
         Due.end(tests.getName());
     }
 
-    private static int promiseOf(Method m) {
+    /** The document, each gap a single space. */
+    static String document() throws IOException {
+        return plain(Files.readString(Path.of("../shared/DOC.md")));
+    }
+
+    static List<Method> testsOf(Class<?> tests) {
+        List<Method> found = new ArrayList<>();
+        for (Method m : tests.getDeclaredMethods()) {
+            if (m.getName().matches(FORM)) {
+                found.add(m);
+            }
+        }
+        found.sort(Comparator.comparing(Method::getName));
+        return found;
+    }
+
+    static int promiseOf(Method m) {
         return Integer.parseInt(m.getName().substring(1, 3));
     }
 
@@ -71,11 +82,11 @@ final class Edges {
         }
     }
 
-    private static String plain(String text) {
+    static String plain(String text) {
         return text.replaceAll("\\s+", " ");
     }
 
-    /** Numbers that are not 0 .. count - 1: just outside, far outside, and such as a cut or a sum could bring inside. */
+    /** Numbers that are not 0 .. count - 1: just outside, far outside, such as a cut or a sum could bring inside. */
     static int[] beyond(int count) {
         return new int[] {-1, count, -2, count + 1, NONE, 256, 65536, -256, 1 << 31 | 1, MIN, MAX};
     }

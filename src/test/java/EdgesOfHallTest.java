@@ -85,7 +85,7 @@ final class EdgesOfHallTest {
         Due.due("no hall by " + text, x.many(0) + x.many(1), 0);
     }
 
-    @Sentence("z, a digit 1 .. 5 (GUESTS, numbered from 0 on)")
+    @Sentence("A HALL by a TEXT: z, a digit 1 .. 5 (GUESTS, numbered from 0 on)")
     static void p02_oneToFiveGuests() {
         for (int guests = 1; guests <= 5; guests++) {
             ChairGrudge x = Due.inHall("z" + guests + ",c00");
@@ -163,7 +163,7 @@ final class EdgesOfHallTest {
         wrong("z1,c3:", 5);
     }
 
-    @Sentence("the place (from 0 on) of the first code with which no TEXT goes on")
+    @Sentence("FIRST FAULT: the place (from 0 on) of the first code with which no TEXT goes on")
     static void p02_theFirstCodeWithWhichNoTextGoesOn() {
         String[] goOn = {"z", "12345", ",", "cbt", "01234", "0123456789", ",", "cbt", "01234", "0123456789"};
         String text = "z3,c12,b34";
@@ -353,7 +353,8 @@ final class EdgesOfHallTest {
         Edges.faulty("none of none from -1", x, x.hall(1, 2, -1, 0), INDEX);
     }
 
-    @Sentence("Of a call the first that is come to, in the order told")
+    @Sentence({"Of a call the first that is come to, in the order told",
+        "INDEX: not all cells are there; -100 less it."})
     static void p02_theFirstInTheOrderTold() {
         ChairGrudge x = new ChairGrudge();
         Edges.faulty("UNKNOWN ahead of OUTSIDE", x, x.hall(4, 3, -1, -1), UNKNOWN);
@@ -366,6 +367,7 @@ final class EdgesOfHallTest {
         Edges.faulty("CAST ahead of INDEX", x, x.hall(0, 0, 0, 4), CAST);
         Edges.faulty("SIZE ahead of INDEX", x, x.hall(0, 1, 4, -1), SIZE);
         Edges.faulty("INDEX ahead of the text", x, x.hall(0, 1, 0, 4), INDEX);
+        Edges.faulty("the text last of all", x, x.hall(0, 1, 0, 3), -100);
     }
 
     @Sentence({"they change nothing (but fault(), of a call that names FAULTS)",
@@ -418,7 +420,7 @@ final class EdgesOfHallTest {
 
     // ---- 4 slip
 
-    @Sentence("SLIPS, 8 at most, numbered by how many there are")
+    @Sentence({"SLIPS, 8 at most, numbered by how many there are", "FULL; they change nothing"})
     static void p04_eightAtMost() {
         ChairGrudge x = Due.inHall("z1,c00");
         for (int k = 0; k < 8; k++) {
@@ -489,7 +491,7 @@ final class EdgesOfHallTest {
         Twins.unchangedWithoutHall("guest", UNKNOWN, x -> x.slip(0, 0, 0));
     }
 
-    @Sentence("all CHAIRS that are no further from that one than their EAR (by numbers; by itself, too)")
+    @Sentence("It is HEARD by all CHAIRS that are no further from that one than their EAR (by numbers; by itself, too)")
     static void p04_heardAsFarAsTheEar() {
         for (int ear = 0; ear <= 4; ear++) {
             for (int on = 0; on < 5; on++) {
@@ -523,6 +525,20 @@ final class EdgesOfHallTest {
                 Due.due(other + " of " + c, x.bears(other, 0, 1), other == c ? 0 : 1);
             }
             x.unsay(1);
+        }
+    }
+
+    @Sentence("in a DINNER a GUEST was unkind on a CHAIR.")
+    static void p04_thatDinnerThatGuestThatChair() {
+        ChairGrudge x = Due.inHall("z3,c01,c01,c01");
+        x.slip(4, 2, 1);
+        for (int dinner = 0; dinner < 20; dinner++) {
+            for (int c = 0; c < 3; c++) {
+                for (int g = 0; g < 3; g++) {
+                    boolean minded = dinner == 5 && c == 1 && g == 2;
+                    Due.due("dinner " + dinner + ", " + c + ", " + g, x.bears(c, g, dinner), minded ? 0 : 1);
+                }
+            }
         }
     }
 

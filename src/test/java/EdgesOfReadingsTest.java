@@ -194,7 +194,7 @@ final class EdgesOfReadingsTest {
         Due.due("in the butter's dinner", x.times(0), Edges.set(0, 1, 2, 3, 4));
     }
 
-    @Sentence("in place of what it is alone, by which all READINGS are so")
+    @Sentence("All that follows: in place of what it is alone, by which all READINGS are so")
     static void p19_inPlaceOfWhatItIsAlone() {
         ChairGrudge x = Due.inHall("z1,c02");
         x.slip(3, 0, 0);
@@ -485,7 +485,8 @@ final class EdgesOfReadingsTest {
         share("128 of 256", z, 1, 1, 2);
     }
 
-    @Sentence("if each SLIP was made, or was not, all such sets alike: the share of those by which all can sit")
+    @Sentence("ODDS of a DINNER: if each SLIP was made, or was not, all such sets alike:"
+        + " the share of those by which all can sit")
     static void p23_allSetsAlike() {
         ChairGrudge x = Due.inHall("z2,c09,c09");
         x.slip(0, 0, 0);

@@ -44,7 +44,8 @@ final class EdgesOfSeatsTest {
 
     // ---- 9 bears
 
-    @Sentence("if it HEARD a SLIP of his of 1 to GRUDGE DINNERS ahead that it has not FORGIVEN")
+    @Sentence("A CHAIR MINDS a GUEST in a DINNER, if it HEARD a SLIP of his of 1 to GRUDGE DINNERS ahead"
+        + " that it has not FORGIVEN. It BEARS those whom it does not MIND.")
     static void p09_oneToGrudgeDinnersAhead() {
         for (int grudge = 0; grudge <= 9; grudge++) {
             ChairGrudge x = Due.inHall("z1,c0" + grudge);
@@ -186,7 +187,7 @@ final class EdgesOfSeatsTest {
 
     // ---- 11 seats
 
-    @Sentence("as many GUESTS as can be sit on CHAIRS that BEAR them, one on each")
+    @Sentence("SEATS in a DINNER: as many GUESTS as can be sit on CHAIRS that BEAR them, one on each")
     static void p11_asManyAsCanBe() {
         seated(minding(1, 0), 1, 1, 0);
         seated(minding(5, 0, 0, 0, 0, 0), 1, 5, 0, 1, 2, 3, 4);
@@ -251,7 +252,7 @@ final class EdgesOfSeatsTest {
         Due.due("guest 0 without a hall", new ChairGrudge().seats(0, 0), UNKNOWN);
     }
 
-    @Sentence("OUTSIDE: dinner; STATE: there is no HALL.")
+    @Sentence({"OUTSIDE: dinner; STATE: there is no HALL.", "OUTSIDE (another number is not as told), STATE (as told)"})
     static void p11_dinnersAndNoHall() {
         ChairGrudge x = Due.inHall("z1,c00");
         Due.due("the first dinner", x.seats(0, 0), 0);
@@ -276,7 +277,8 @@ final class EdgesOfSeatsTest {
 
     // ---- 12 few
 
-    @Sentence("a smallest set of GUESTS for whom there are fewer CHAIRS that BEAR one of them or more than they are")
+    @Sentence("FEW: a smallest set of GUESTS for whom there are fewer CHAIRS that BEAR one of them"
+        + " or more than they are")
     static void p12_aSmallestSet() {
         Due.due("one who is borne nowhere", minding(3, 4, 4, 4).few(1), 4);
         Due.due("two for one chair", minding(3, 6, 0, 6).few(1), 6);
@@ -507,7 +509,7 @@ final class EdgesOfSeatsTest {
 
     // ---- 14 least
 
-    @Sentence("the fewest BUTTERS (a GUEST to a CHAIR, given just ahead, so that it BEARS him in any case)")
+    @Sentence("LEAST: the fewest BUTTERS (a GUEST to a CHAIR, given just ahead, so that it BEARS him in any case)")
     static void p14_noneToAllGuests() {
         buttered(minding(5, 0, 0, 0, 0, 0), 1, 0, 0, 1, 2, 3, 4);
         buttered(minding(1, 1), 1, 1, 0);
@@ -609,7 +611,7 @@ final class EdgesOfSeatsTest {
 
     // ---- 15 when
 
-    @Sentence("the first DINNER from one on in which all can sit (with SLIPS, BUTTER as told)")
+    @Sentence("WHEN: the first DINNER from one on in which all can sit (with SLIPS, BUTTER as told)")
     static void p15_fromOneOn() {
         ChairGrudge x = Due.inHall("z1,c03");
         x.slip(5, 0, 0);
@@ -664,7 +666,7 @@ final class EdgesOfSeatsTest {
 
     // ---- 16 fresh
 
-    @Sentence("how many GUESTS more can sit in a DINNER, if a CHAIR remembers nothing")
+    @Sentence("FRESH: how many GUESTS more can sit in a DINNER, if a CHAIR remembers nothing")
     static void p16_noneAndMore() {
         ChairGrudge x = minding(2, 3, 3);
         Due.due("one more", x.fresh(0, 1), 1);

@@ -421,7 +421,7 @@ final class EdgesOfSheetsTest {
         Due.due("throne", y.tell(2), 118);
     }
 
-    @Sentence({"(BENCH's left out)", "as they begin"})
+    @Sentence({"TELLING of CHAIRS by bodies that leave their number in TRACE", "(BENCH's left out)", "as they begin"})
     static void p29_bodiesInTheirOrder() {
         ChairGrudge x = Due.inHall("z1,t05");
         x.tell(0);
@@ -544,7 +544,7 @@ final class EdgesOfSheetsTest {
         }
     }
 
-    @Sentence("0 at first")
+    @Sentence({"`int trace()`: TRACE.", "0 at first"})
     static void p32_onlyBodiesLeaveTheirNumber() {
         ChairGrudge x = Due.inHall("z1,c09,b09,t09");
         for (int c = 0; c < 3; c++) {
@@ -580,7 +580,7 @@ final class EdgesOfSheetsTest {
         Due.due("ahead of any that names one", x.fault(), 0);
     }
 
-    @Sentence("1 NULL (there is nothing), 2 CAST (it is of another lane, kind), 3 INDEX")
+    @Sentence("FAULTS are the machine's: 1 NULL (there is nothing), 2 CAST (it is of another lane, kind), 3 INDEX")
     static void p33_eachFault() {
         ChairGrudge x = Due.inHall("z1,c00");
         Due.due("NULL", x.put(1, 0, 0), -11);
@@ -621,7 +621,7 @@ final class EdgesOfSheetsTest {
         }
     }
 
-    @Sentence({"0: it came to none, or was refused", "STATE: there is no HALL", "-100 less the FIRST FAULT."})
+    @Sentence("0: it came to none, or was refused")
     static void p33_refusedBehindTheFaults() {
         ChairGrudge x = new ChairGrudge();
         x.sheet(0, 0, 6);

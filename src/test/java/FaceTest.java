@@ -30,6 +30,8 @@ final class FaceTest {
         String source = Files.readString(Path.of("src/main/java/ChairGrudge.java"));
         text(source);
         lengths(source);
+        asInTheDocument(source, Edges.document());
+        headings(source, Edges.document());
         Due.end("FaceTest");
     }
 
@@ -57,6 +59,45 @@ final class FaceTest {
         }
         Due.due("one constructor", ChairGrudge.class.getDeclaredConstructors().length, 1);
         Due.due("it is public", ChairGrudge.class.getConstructors().length, 1);
+    }
+
+    /** Each line of the document's face stands in the class, with the parameters' names, in the same order. */
+    private static void asInTheDocument(String source, String document) {
+        String face = document.substring(document.indexOf("public final class"), document.indexOf("} ```"));
+        Matcher call = Pattern.compile("public [\\w ]*\\([^)]*\\);").matcher(face);
+        int calls = 0;
+        int place = 0;
+        while (call.find()) {
+            calls++;
+            String head = call.group().replace(";", " {");
+            int at = source.indexOf(head);
+            Due.due("in the document's order: " + head, at > place);
+            place = at;
+        }
+        Due.due("a constructor and the calls", calls, 1 + FACE.length);
+        Matcher constants = Pattern.compile("public static final [^;]*;").matcher(face);
+        while (constants.find()) {
+            Due.due("as in the document: " + constants.group(), source.contains(constants.group()));
+        }
+    }
+
+    /** Ahead of the calls of each part stands what the document says there. */
+    private static void headings(String source, String document) {
+        Matcher part = Pattern.compile("Ahead of the calls (.*?) the interface says: (---- .*?)\\.").matcher(document);
+        int parts = 0;
+        while (part.find()) {
+            parts++;
+            int begin = source.indexOf("// " + part.group(2) + "\n");
+            Due.due("the class says: " + part.group(2), begin >= 0);
+            int next = source.indexOf("// ---- ", begin + 1);
+            Matcher name = Pattern.compile("`(\\w+)`").matcher(part.group(1));
+            while (name.find()) {
+                Matcher call = Pattern.compile("public \\w+ " + name.group(1) + "\\(").matcher(source);
+                Due.due(name.group(1) + " in its part",
+                    call.find() && call.start() > begin && (next < 0 || call.start() < next));
+            }
+        }
+        Due.due("parts", parts, 5);
     }
 
     private static String signature(Method m) {
@@ -104,7 +145,8 @@ final class FaceTest {
 
     /** A method ends at the first closing brace that is set in as far as its head. */
     private static void lengths(String code) {
-        Matcher method = Pattern.compile("(?ms)^( {4}| {8})(?=\\S)[\\w\\[\\] ]+\\([^;{}]*\\) \\{$.*?^\\1\\}$").matcher(code);
+        String head = "^( {4}| {8})(?=\\S)[\\w\\[\\] ]+\\([^;{}]*\\) \\{$";
+        Matcher method = Pattern.compile("(?ms)" + head + ".*?^\\1\\}$").matcher(code);
         int found = 0;
         while (method.find()) {
             found++;
